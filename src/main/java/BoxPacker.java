@@ -452,7 +452,8 @@ public final class BoxPacker {
                 return AWFUL_BADNESS;
             }
             int ratio = badnessRatio(Math.abs(excess), total);
-            return ratio > 1290 ? AWFUL_BADNESS : cubed(ratio);
+            // 1290 is the last ratio whose cube still is an int.
+            return ratio > 1290 ? AWFUL_BADNESS : (ratio * ratio * ratio + 131072) / 262144;
         }
 
         // About 297 * excess / total, by the document's steps, which stay within the ints.
@@ -461,10 +462,6 @@ public final class BoxPacker {
                 return 297 * missing / available;
             }
             return available >= 1663497 ? missing / (available / 297) : missing;
-        }
-
-        private static int cubed(int ratio) {
-            return (int) (((long) ratio * ratio * ratio + 131072) / 262144);
         }
     }
 

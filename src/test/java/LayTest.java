@@ -15,6 +15,7 @@ public final class LayTest {
         manyMarks();
         manyItems();
         wrongArguments();
+        exampleOfTheReadme();
         CHECK.finish();
     }
 
@@ -262,5 +263,21 @@ public final class LayTest {
         mark("packing leaves the marks", p, 0, 7, 3, 4, 1, 1, 1);
         CHECK.same("an empty box", p.lay(1, 0, 0), 0);
         CHECK.refusedIndex("an empty box has no marks", () -> p.mark(0, 0));
+    }
+
+    private static void exampleOfTheReadme() {
+        BoxPacker p = new BoxPacker();
+        p.leaf('A', 100, 70, 20);
+        p.glue(5, 3, 0, 2, 0);
+        p.leaf('B', 100, 70, 20);
+        int line = p.pack(false, 1, 207, 0);
+        CHECK.same("README, badness", p.of(line, 6), 30);
+        CHECK.same("README, place", p.place(line, 2), 107);
+        p.box(line, 0);
+        p.kern(10);
+        p.rule(RUNNING, 1, 0);
+        int page = p.pack(true, 0, 0, 0);
+        CHECK.same("README, marks", p.lay(page, 0, 101), 3);
+        mark("README", p, 2, NONE, 0, 101, 207, 1, 0);
     }
 }
