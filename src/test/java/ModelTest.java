@@ -1,8 +1,6 @@
-import java.lang.reflect.InvocationTargetException;
 import java.lang.reflect.Method;
 import java.util.ArrayDeque;
 import java.util.Deque;
-import java.util.HashMap;
 import java.util.Map;
 import java.util.Random;
 
@@ -13,8 +11,8 @@ public final class ModelTest {
     private static final int TOLD = 12;
     private static final int RUNNING = BoxPacker.RUNNING;
     private static final int MAX = 1073741823;
-    private static final Map<String, Method> REAL = methods(BoxPacker.class);
-    private static final Map<String, Method> MODEL = methods(PlainModel.class);
+    private static final Map<String, Method> REAL = Calls.methods(BoxPacker.class);
+    private static final Map<String, Method> MODEL = Calls.methods(PlainModel.class);
     private static final Check CHECK = new Check();
 
     private final Random random;
@@ -38,16 +36,6 @@ public final class ModelTest {
             new ModelTest(seed).run(seed);
         }
         CHECK.finish();
-    }
-
-    private static Map<String, Method> methods(Class<?> type) {
-        Map<String, Method> found = new HashMap<>();
-        for (Method method : type.getMethods()) {
-            if (method.getDeclaringClass() == type) {
-                found.put(method.getName(), method);
-            }
-        }
-        return found;
     }
 
     private void run(int seed) {
@@ -172,13 +160,10 @@ public final class ModelTest {
             return null;
         }
         calls++;
-        Object due = answer(MODEL.get(name), model, arguments);
-        Object got = answer(REAL.get(name), real, arguments);
-        StringBuilder text = new StringBuilder(name).append('(');
-        for (int i = 0; i < arguments.length; i++) {
-            text.append(i == 0 ? "" : ", ").append(arguments[i]);
-        }
-        last.add(text.append(") -> ").append(got).toString());
+        Object due = Calls.answer(MODEL.get(name), model, arguments);
+        Object got = Calls.answer(REAL.get(name), real, arguments);
+        String text = Calls.text(name, arguments) + " -> " + got;
+        last.add(text);
         if (last.size() > TOLD) {
             last.remove();
         }
@@ -187,15 +172,5 @@ public final class ModelTest {
             CHECK.report(text + ", due is " + due);
         }
         return got;
-    }
-
-    private static Object answer(Method method, Object target, Object[] arguments) {
-        try {
-            return method.invoke(target, arguments);
-        } catch (InvocationTargetException e) {
-            return "throws." + e.getCause().getClass().getSimpleName();
-        } catch (IllegalAccessException e) {
-            return "cannot be called";
-        }
     }
 }
