@@ -27,6 +27,10 @@ public final class LayBoundaryTest {
         Run.make(CHECK, title, rows);
     }
 
+    /**
+     * "IndexOutOfBoundsException when there is no such box; IllegalArgumentException when x or y is no
+     * size."
+     */
     private static void noSuchBoxOrSize() {
         run("No such box", "lay 0 0 0 ! index; leaf 7 1 2 3; pack along 0 0 0; lay 0 4 5 = 1; lay -1 0 0 ! index",
             "lay 1 0 0 ! index; lay INT_MIN 0 0 ! index; lay INT_MAX 0 0 ! index; marked 0 = 7 4 5 1 2 3; mark 1 0 ! index",
@@ -40,17 +44,19 @@ public final class LayBoundaryTest {
             "lay 0 -MAX MAX = 1; marked 0 = 7 -MAX MAX 1 2 3");
     }
 
+    /** "IndexOutOfBoundsException when there is no such mark or what." */
     private static void noSuchMark() {
         run("No such mark or what", "mark 0 0 ! index; leaf 7 1 2 3; rule 4 5 6; pack along 0 0 0; mark 0 0 ! index",
             "lay 0 8 9 = 2; mark -1 0 ! index; mark -1 5 ! index; mark 2 0 ! index; mark 2 -1 ! index; mark 0 6 ! index",
             "mark 0 -1 ! index; mark 1 -1 ! index; mark 1 6 ! index; mark 0 INT_MIN ! index; mark 0 INT_MAX ! index",
             "mark INT_MIN 0 ! index; mark INT_MAX 5 ! index; marked 0 = 7 8 9 1 2 3; marked 1 = NONE 9 9 4 5 6");
-        // Six times these wraps around to 2 and to 4.
+        // Six times each of these wraps around to 2 or to 4.
         run("No mark so far off that six times it wraps around", "leaf 7 1 2 3; pack along 0 0 0; lay 0 0 0 = 1",
             "mark 715827883 0 ! index; mark -715827882 0 ! index; mark 1431655766 0 ! index; mark 0 0 = 7");
         run("An empty box has no marks", "pack along 0 0 0; lay 0 0 0 = 0; mark 0 0 ! index");
     }
 
+    /** "all rules with a width above 0 and a height and depth that are above 0 together" */
     private static void rulesToldOrNot() {
         for (String way : new String[] {"along", "below"}) {
             String pack = "; pack " + way + " 0 0 MAX; lay ";
@@ -68,14 +74,18 @@ public final class LayBoundaryTest {
         }
     }
 
+    /**
+     * "A rule's running width (packed below) is the box's width, its running height and depth (packed
+     * along) those of the box; other running sizes are 0."
+     */
     private static void runningRulesToldOrNot() {
         run("Below, a running width is the box's", "rule RUNNING 1 1; pack below 0 0 0; lay 0 0 0 = 0",
             "rule RUNNING 1 1; rule 1 0 0; pack below 0 0 0; lay 1 0 0 = 1; mark 0 3 = 1; rule RUNNING 1 1; leaf 8 -1 0 0",
             "pack below 0 0 0; lay 2 0 0 = 1; mark 0 0 = 8; rule 3 0 0; rule RUNNING 1 1; pack below 0 0 0; lay 3 0 0 = 1",
             "mark 0 3 = 3");
         run("Below, a running height and depth are 0", "leaf 8 1 5 5; rule 1 RUNNING RUNNING; pack below 0 0 0; lay 0 0 0 = 1",
-            "leaf 8 1 5 5; rule 1 RUNNING 1; pack below 0 0 0; lay 1 0 0 = 2; mark 1 4 = 0; mark 1 5 = 1",
-            "leaf 8 1 5 5; rule 1 1 RUNNING; pack below 0 0 0; lay 2 0 0 = 2; mark 1 4 = 1; mark 1 5 = 0");
+            "leaf 8 1 5 5; rule 1 RUNNING 1; pack below 0 0 1; lay 1 0 0 = 2; marked 1 = NONE 0 0 1 0 1",
+            "leaf 8 1 5 5; rule 1 1 RUNNING; pack below 0 0 0; lay 2 0 0 = 2; marked 1 = NONE 0 0 1 1 0");
         run("Along, a running height and depth are the box's", "rule 1 RUNNING RUNNING; pack along 0 0 0; lay 0 0 0 = 0",
             "rule 1 RUNNING RUNNING; rule 0 1 0; pack along 0 0 0; lay 1 0 0 = 1; mark 0 4 = 1; mark 0 5 = 0",
             "rule 1 RUNNING RUNNING; rule 0 0 1; pack along 0 0 0; lay 2 0 0 = 1; mark 0 4 = 0; mark 0 5 = 1",
@@ -87,6 +97,7 @@ public final class LayBoundaryTest {
             "rule RUNNING 1 1; leaf 8 4 2 3; pack below 1 50 0; lay 1 0 0 = 2; marked 0 = NONE 0 -49 4 1 1");
     }
 
+    /** "All leaves" */
     private static void leavesAreAlwaysTold() {
         for (String way : new String[] {"along", "below"}) {
             run("Leaves without a size, and below 0, " + way, "leaf 0 0 0 0; leaf 1 -1 -1 -1; leaf 2 1 1 -1; leaf 3 0 1 1",
@@ -94,6 +105,7 @@ public final class LayBoundaryTest {
         }
     }
 
+    /** "NONE when there would be more than 1000" */
     private static void aThousandMarks() {
         run("999 marks", LEAVES, "9 * box 1 0; 9 * box 0 0; 8 * leaf 9 1 1 0; leaf 8 1 1 0; pack along 0 0 0",
             "lay 3 0 0 = 999; mark 998 0 = 8; mark 999 0 ! index");
@@ -107,6 +119,7 @@ public final class LayBoundaryTest {
             "box 3 0; pack along 0 0 0; lay 4 0 0 = NONE; mark 0 0 ! index");
     }
 
+    /** "NONE when there would be more than 1000" */
     private static void aThousandMarksWithRules() {
         run("1000 leaves and a rule that is told", LEAVES, "box 2 0; rule 1 1 0; pack along 0 0 0; lay 3 0 0 = NONE",
             "mark 0 0 ! index");
@@ -116,6 +129,7 @@ public final class LayBoundaryTest {
             "lay 3 0 0 = 1000; mark 999 0 = NONE; mark 998 0 = 9; mark 1000 0 ! index");
     }
 
+    /** "or the box has more than 20000 items in all, and then there are none" */
     private static void twentyThousandItems() {
         run("19999 in all", KERNS, "box 3 0; 8 * box 2 0; pack along 0 0 0; of 4 10 = 19999; lay 4 0 0 = 0");
         run("20000 in all", KERNS, "box 3 0; 8 * box 2 0; leaf 8 1 2 3; pack along 0 0 0; of 4 10 = 20000",
@@ -128,6 +142,7 @@ public final class LayBoundaryTest {
             "of 5 10 = 1000000; lay 5 0 0 = NONE; mark 0 0 ! index");
     }
 
+    /** "A box is LAID out: how many marks there are" */
     private static void marksOfTheLastLayoutAlone() {
         run("Each layout tells its own marks", "3 * leaf 1 1 1 1; pack along 0 0 0; leaf 2 1 1 1; pack along 0 0 0",
             "pack along 0 0 0; lay 0 0 0 = 3; lay 1 0 0 = 1; mark 0 0 = 2; mark 1 0 ! index; lay 2 0 0 = 0; mark 0 0 ! index",
@@ -136,18 +151,21 @@ public final class LayBoundaryTest {
             "leaf 8 8 8 8; pack below 0 0 0; of 1 0 = 8; place 1 0 = 0; marked 0 = 1 5 6 2 3 4; mark 1 0 ! index");
     }
 
+    /** "a box at y and its shift" */
     private static void shifts() {
         String leaf = "leaf 8 10 7 2; pack along 0 0 0; ";
         run("Along, a box comes to y and its shift", leaf + "kern 5; box 0 -1; box 0 0; box 0 1; pack along 0 0 0",
             "lay 1 100 200 = 3; marked 0 = 8 105 199 10 7 2; marked 1 = 8 115 200 10 7 2; marked 2 = 8 125 201 10 7 2");
         run("Below, a box comes to x and its shift", leaf + "kern 5; box 0 -1; box 0 0; box 0 1; pack below 0 0 2",
-            "of 1 1 = 30; lay 1 100 200 = 3; marked 0 = 8 99 182 10 7 2; marked 1 = 8 100 191 10 7 2; marked 2 = 8 101 200 10 7 2");
+            "of 1 1 = 30; lay 1 100 200 = 3; marked 0 = 8 99 182 10 7 2; marked 1 = 8 100 191 10 7 2",
+            "marked 2 = 8 101 200 10 7 2");
         run("A shift at its ends", "leaf 8 0 0 0; pack along 0 0 0; box 0 MAX; box 0 -MAX; pack along 0 0 0; lay 1 0 MAX = 2",
             "mark 0 2 = 2147483646; mark 1 2 = 0; lay 1 0 -MAX = 2; mark 0 2 = 0; mark 1 2 = -2147483646",
             "box 0 MAX; box 0 -MAX; pack below 0 0 0; lay 2 MAX 0 = 2; mark 0 1 = 2147483646; mark 1 1 = 0",
             "lay 2 -MAX 0 = 2; mark 0 1 = 0; mark 1 1 = -2147483646");
     }
 
+    /** "each item comes to x and its place" */
     private static void ends() {
         run("x above the ints", "glue 0 1 0 0 0; kern MAX; leaf 7 -MAX 0 0; pack along 2 MAX 0; place 0 2 = 2147483646",
             "lay 0 MAX 0 = 1; mark 0 1 = 3221225469; lay 0 1 0 = 1; mark 0 1 = 2147483647; lay 0 2 0 = 1; mark 0 1 = 2147483648");

@@ -22,6 +22,7 @@ public final class ListBoundaryTest {
         keepOfNone();
         keepOfSome();
         keepOfAHundred();
+        theLastCalls();
         CHECK.finish();
     }
 
@@ -50,6 +51,7 @@ public final class ListBoundaryTest {
         run(call, rows.toArray(new String[0]));
     }
 
+    /** "No boxes, an empty list, no marks." */
     private static void aNewObject() {
         run("No boxes, an empty list, no marks",
             "items = 0; boxes = 0; keep 0 = true; keep 1 = false; box 0 0 ! index; of 0 0 ! index",
@@ -58,6 +60,7 @@ public final class ListBoundaryTest {
             "pack along 0 0 0 = 0; boxes = 1; items = 0; mark 0 0 ! index; lay 0 0 0 = 0; mark 0 0 ! index");
     }
 
+    /** "SIZES are ints from -1073741823 to 1073741823." */
     private static void sizesOfItems() {
         String[] refused = and(NO_SIZES, "RUNNING");
         argument("leaf 0 ? 0 0", SIZES, refused);
@@ -68,6 +71,7 @@ public final class ListBoundaryTest {
         argument("box 0 ?", SIZES, refused);
     }
 
+    /** "IllegalArgumentException when one of them is neither a size nor RUNNING" */
     private static void runningSizes() {
         String[] taken = and(SIZES, "RUNNING");
         argument("rule ? 0 0", taken, NO_SIZES);
@@ -76,6 +80,7 @@ public final class ListBoundaryTest {
         argument("rule ? RUNNING RUNNING", taken, NO_SIZES);
     }
 
+    /** "stretch or shrink no size or below 0" */
     private static void sizesNotBelowZero() {
         String[] taken = {"0", "1", "MAX-1", "MAX"};
         String[] refused = and(NO_SIZES, "RUNNING", "-1", "-2", "-MAX");
@@ -83,11 +88,13 @@ public final class ListBoundaryTest {
         argument("glue 0 0 0 ? 0", taken, refused);
     }
 
+    /** "IllegalArgumentException when tag is not 0 .. 65535" */
     private static void tags() {
         String[] refused = {"-1", "-2", "65536", "65537", "131072", "INT_MIN", "INT_MAX"};
         argument("leaf ? 0 0 0", new String[] {"0", "1", "65534", "65535"}, refused);
     }
 
+    /** "or an order is not 0 .. 3" */
     private static void orders() {
         String[] taken = {"0", "1", "2", "3"};
         String[] refused = {"-1", "-2", "4", "5", "INT_MIN", "INT_MAX"};
@@ -95,6 +102,7 @@ public final class ListBoundaryTest {
         argument("glue 0 1 0 1 ?", taken, refused);
     }
 
+    /** "SIZES are ints from -1073741823 to 1073741823." */
     private static void endsAreHeldExactly() {
         run("The greatest tag and sizes of a leaf",
             "leaf 65535 MAX MAX MAX = 0; pack along 0 0 0 = 0; sizes 0 = MAX MAX MAX",
@@ -116,6 +124,7 @@ public final class ListBoundaryTest {
             "box 0 -MAX; pack along 0 0 0; sizes 2 = 0 MAX 0; box 0 MAX; pack below 0 0 0; sizes 3 = MAX 0 0");
     }
 
+    /** "IndexOutOfBoundsException when there is no such box" */
     private static void numbersOfBoxes() {
         run("No such box, of one",
             "kern 7; pack along 0 0 0 = 0; box -1 0 ! index; box 1 0 ! index; box 0 0 = 0; items = 1",
@@ -128,6 +137,7 @@ public final class ListBoundaryTest {
             "box -1 0 ! index; items = 1");
     }
 
+    /** "UnsupportedOperationException when there are 100 items." */
     private static void aHundredItems() {
         for (String item : ONE_OF_EACH) {
             run("There are 100 items: " + item,
@@ -143,6 +153,7 @@ public final class ListBoundaryTest {
             "pack along 2 4 0 = 1; sizes 1 = 84 1 1; fit 1 = 4 0 20 1 0; counts 1 = 2 100 100");
     }
 
+    /** "False when n is negative, or it has not so many." */
     private static void keepOfNone() {
         run("keep of an empty list",
             "keep -1 = false; keep 0 = true; keep 1 = false; items = 0; keep INT_MIN = false",
@@ -152,6 +163,7 @@ public final class ListBoundaryTest {
             "items = 0; pack along 0 0 0 = 1; sizes 1 = 0 0 0; sizes 0 = 6 0 0; of 0 9 = 2");
     }
 
+    /** "False when n is negative, or it has not so many." */
     private static void keepOfSome() {
         run("n is negative", "2 * kern 3; keep -1 = false; items = 2; keep INT_MIN = false; items = 2",
             "kern 5 = 2; pack along 0 0 0; of 0 0 = 11; places 0 = 0 3 6");
@@ -166,12 +178,22 @@ public final class ListBoundaryTest {
         run("A packed box keeps its own items",
             "leaf 1 3 0 0; leaf 2 4 0 0; pack along 0 0 0; leaf 3 50 0 0; leaf 4 60 0 0; keep 0 = true",
             "lay 0 0 0 = 2; mark 0 0 = 1; mark 1 0 = 2; mark 1 1 = 3; of 0 9 = 2");
+        run("A packed box keeps its own items, a hundred", "100 * leaf 1 1 1 1; pack along 0 0 0; 100 * leaf 2 3 3 3",
+            "lay 0 0 0 = 100; marked 0 = 1 0 0 1 1 1; marked 99 = 1 99 0 1 1 1; pack along 0 0 0; lay 0 0 0 = 100",
+            "mark 99 0 = 1; lay 1 0 0 = 100; mark 99 0 = 2");
     }
 
+    /** "False when n is negative, or it has not so many." */
     private static void keepOfAHundred() {
         run("keep of 100 items",
             "100 * kern 1; keep 101 = false; items = 100; keep 100 = true; items = 100; keep 99 = true",
             "items = 99; keep 100 = false; items = 99; kern 1 = 99; kern 1 ! too much; keep -1 = false",
             "items = 100; keep 1 = true; items = 1; keep 0 = true; items = 0; keep 1 = false; kern 1 = 0");
+    }
+
+    /** "An object is used for at most 512 calls after it has been made" */
+    private static void theLastCalls() {
+        run("The 511th and the 512th call", "leaf 1 2 3 4; pack along 0 0 0; lay 0 5 6 = 1; 100 * kern 1; 99 * pack along 0 0 0",
+            "308 * lay 0 5 6 = 1; mark 0 1 = 5; of 99 8 = 1");
     }
 }

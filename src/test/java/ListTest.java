@@ -35,9 +35,12 @@ public final class ListTest {
         other.leaf(5, 6, 7, 8);
         other.pack(false, 0, 0, 0);
         other.lay(0, 0, 0);
+        other.kern(90);
         CHECK.same("the first object: items", one.items(), 1);
         CHECK.same("the first object: width of its box", one.of(0, 0), 2);
         CHECK.same("the first object: tag of its mark", one.mark(0, 0), 1);
+        CHECK.same("the first object: its next box", one.pack(false, 0, 0, 0), 1);
+        CHECK.same("the first object: width of its next box", one.of(1, 0), 1);
     }
 
     private static void leaf() {

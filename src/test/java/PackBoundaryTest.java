@@ -35,6 +35,7 @@ public final class PackBoundaryTest {
         Run.make(CHECK, title, rows);
     }
 
+    /** "IllegalArgumentException when how is not 0 .. 2" */
     private static void how() {
         for (String way : WAYS) {
             for (String how : new String[] {"-1", "3", "-2", "4", "INT_MIN", "INT_MAX"}) {
@@ -47,6 +48,7 @@ public final class PackBoundaryTest {
             "kern 5; pack along 2 9 0 = 2; fit 2 = 9 0 0 10000 0; of 2 0 = 14");
     }
 
+    /** "or size or greatest are no sizes" */
     private static void sizeAndGreatest() {
         String[] noSizes = {"RUNNING", "-MAX-2", "MAX+1", "MAX+2", "INT_MIN", "INT_MAX"};
         for (String way : WAYS) {
@@ -66,6 +68,7 @@ public final class PackBoundaryTest {
             "leaf 1 2 3 4; pack along 0 0 MAX; sizes 1 = 2 3 4");
     }
 
+    /** "UnsupportedOperationException when there are 100 boxes" */
     private static void aHundredBoxes() {
         for (String way : WAYS) {
             run("There are 100 boxes, " + way, "98 * pack " + way + " 0 0 0; boxes = 98; kern 3",
@@ -75,6 +78,7 @@ public final class PackBoundaryTest {
         }
     }
 
+    /** "or it would be more than 10 deep" */
     private static void tenDeep() {
         for (String way : WAYS) {
             run("10 deep, and more, " + way, TEN_DEEP, "of 9 8 = 10; of 8 8 = 9; of 0 8 = 1; box 9 0",
@@ -92,6 +96,7 @@ public final class PackBoundaryTest {
             "glue 0 0 0 0 0; pack below 0 0 0; of 1 8 = 1; box 1 0; pack below 0 0 0; of 2 8 = 2");
     }
 
+    /** "(1000000 if there are more)" */
     private static void aMillionInAll() {
         run("999999 in all", MANY_IN_ALL, "counts 4 = 5 10 111110; 9 * box 4 0; pack along 0 0 0",
             "counts 5 = 6 9 999999");
@@ -104,6 +109,7 @@ public final class PackBoundaryTest {
             "box 0 0; pack along 0 0 0; counts 2 = 2 1 1; 2 * box 1 0; pack along 0 0 0; counts 3 = 2 2 4");
     }
 
+    /** "with a length of 0 and a depth of 0 at first" */
     private static void emptyList() {
         run("An empty list", "pack along 0 0 0 = 0; sizes 0 = 0 0 0; fit 0 = 0 0 0 0 0; counts 0 = 1 0 0",
             "pack below 0 0 0 = 1; sizes 1 = 0 0 0; fit 1 = 0 0 0 0 0; counts 1 = 1 0 0");
@@ -115,6 +121,10 @@ public final class PackBoundaryTest {
             "pack below 0 0 -MAX; sizes 3 = 0 MAX -MAX");
     }
 
+    /**
+     * "its height is the greatest of 0, the heights of leaves and rules that are not running, and the
+     * heights of boxes less their shifts"
+     */
     private static void heightsAlong() {
         run("The greatest of 0 and the heights of leaves", "leaf 1 0 -1 0; pack along 0 0 0; of 0 1 = 0",
             "leaf 1 0 0 0; pack along 0 0 0; of 1 1 = 0; leaf 1 0 1 0; pack along 0 0 0; of 2 1 = 1",
@@ -130,6 +140,10 @@ public final class PackBoundaryTest {
             "pack along 0 0 0; sizes 1 = 9 3 3; places 1 = 0 4 4");
     }
 
+    /**
+     * "its depth the greatest of 0, the depths of leaves and of rules that are not running, and the
+     * depths of boxes with their shifts added"
+     */
     private static void depthsAlong() {
         run("The greatest of 0 and the depths of leaves", "leaf 1 0 0 -1; pack along 0 0 0; of 0 2 = 0",
             "leaf 1 0 0 0; pack along 0 0 0; of 1 2 = 0; leaf 1 0 0 1; pack along 0 0 0; of 2 2 = 1",
@@ -142,6 +156,10 @@ public final class PackBoundaryTest {
             "box 0 -4; pack along 0 0 0; of 3 2 = 1; box 0 1; pack along 0 0 0; of 4 2 = 6");
     }
 
+    /**
+     * "Its width is the greatest of 0, the widths of leaves and of rules that are not running, and the
+     * widths of boxes with their shifts added."
+     */
     private static void widthsBelow() {
         run("The greatest of 0 and the widths of leaves", "leaf 1 -1 0 0; pack below 0 0 0; of 0 0 = 0",
             "leaf 1 0 0 0; pack below 0 0 0; of 1 0 = 0; leaf 1 1 0 0; pack below 0 0 0; of 2 0 = 1",
@@ -155,6 +173,7 @@ public final class PackBoundaryTest {
         run("Widths of glue and kerns are no widths below", "kern 9; glue 8 7 0 7 0; pack below 0 0 0; sizes 0 = 0 17 0");
     }
 
+    /** "for glue and kerns the depth and the width are added to the length, and the depth is 0 then" */
     private static void lengthsBelow() {
         run("A depth is added once something comes behind it", "leaf 1 0 5 3; pack below 0 0 3; sizes 0 = 0 5 3",
             "leaf 1 0 5 3; leaf 1 0 0 0; pack below 0 0 3; sizes 1 = 0 8 0",
@@ -170,6 +189,10 @@ public final class PackBoundaryTest {
             "box 0 99; pack below 0 0 MAX; sizes 1 = 99 5 3; box 0 -99; pack below 0 0 MAX; sizes 2 = 0 5 3");
     }
 
+    /**
+     * "if the depth is above the GREATEST DEPTH given, what is above it is added to the length, and it
+     * is that"
+     */
     private static void greatestDepth() {
         run("A depth of 7, and the greatest depth", "leaf 1 0 5 7; pack below 0 0 8; sizes 0 = 0 5 7",
             "leaf 1 0 5 7; pack below 0 0 7; sizes 1 = 0 5 7; leaf 1 0 5 7; pack below 0 0 6; sizes 2 = 0 6 6",
@@ -188,6 +211,7 @@ public final class PackBoundaryTest {
             "leaf 1 0 5 7; rule 0 1 RUNNING; pack below 0 0 0; sizes 1 = 0 13 0");
     }
 
+    /** "natural: 0; to a size: that size less the length; by a size: that size" */
     private static void excess() {
         for (String way : WAYS) {
             String glue = "glue 10 3 1 4 2; pack " + way + " ";
@@ -204,6 +228,7 @@ public final class PackBoundaryTest {
             "kern 10; pack below 0 1 0; sizes 6 = 0 10 0; kern 10; pack along 0 -1 0; sizes 7 = 10 0 0");
     }
 
+    /** "the ORDER is the greatest one of which glue has a sum of stretch that is not 0" */
     private static void orders() {
         for (int order = 0; order < 4; order++) {
             int other = 3 - order;
@@ -224,6 +249,10 @@ public final class PackBoundaryTest {
             "fit 1 = -1 0 0 1000000 1; kern 5; pack along 2 0 0; fit 2 = 0 0 0 0 0");
     }
 
+    /**
+     * "If the excess is below 0, the order 0, and the total less than what is missing, the box is
+     * OVERFULL"
+     */
     private static void overfull() {
         for (String way : WAYS) {
             String glue = "glue 20 0 0 4 0; kern 5; glue 20 0 0 6 0; pack " + way + " 2 ";
@@ -250,6 +279,7 @@ public final class PackBoundaryTest {
         }
     }
 
+    /** "1000000 if it is overfull; 0 if the excess is 0, or the order above 0" */
     private static void badnessOfGlue() {
         badness(10, 0, 0);
         badness(0, 0, 0);
@@ -265,6 +295,7 @@ public final class PackBoundaryTest {
             "pack along 2 0 0; of 3 6 = 0; glue 0 9 0 9 0; glue 0 0 1 0 1; pack along 2 9 0; of 4 6 = 100");
     }
 
+    /** "if r is above 1290, 10000; else (r * r * r + 131072) / 262144, rounded down" */
     private static void badnessRounded() {
         // r is t when s is 297; its cube and a half are a whole 262144 from 51 on, and two from 74 on.
         badness(297, 50, 0);
@@ -292,6 +323,7 @@ public final class PackBoundaryTest {
         badness(1000, 4347, 10000);
     }
 
+    /** "297 * t / s if t is not above 7230584; otherwise t / (s / 297) if s is not below 1663497" */
     private static void badnessOfGreatExcesses() {
         // 297 * 7230584 / 1663497 is 1290.9; of 1663496 and 1663498 it rounds down to 1290, too.
         for (int s = 1663496; s <= 1663498; s++) {
@@ -322,6 +354,7 @@ public final class PackBoundaryTest {
         badness(15000281, 14999985, 100);
     }
 
+    /** "IndexOutOfBoundsException when there is no such box or what." */
     private static void whatThereIsOfABox() {
         run("No such box, no such what", "boxes = 0; of 0 0 ! index; leaf 1 2 3 4; pack along 1 5 0; boxes = 1",
             "of 0 -1 ! index; of 0 11 ! index; of 0 INT_MIN ! index; of 0 INT_MAX ! index; of -1 0 ! index",

@@ -22,6 +22,7 @@ public final class PlaceBoundaryTest {
         Run.make(CHECK, title, rows);
     }
 
+    /** "IndexOutOfBoundsException when there is no such box or item." */
     private static void noSuchItem() {
         run("No such box or item", "place 0 0 ! index; kern 3; kern 4; place 0 0 ! index; pack along 0 0 0; kern 5",
             "place 0 -1 ! index; place 0 2 ! index; place 0 3 ! index; place -1 0 ! index; place 1 0 ! index",
@@ -34,6 +35,7 @@ public final class PlaceBoundaryTest {
             "place 1 1 = 4; place 1 2 ! index; place 2 0 ! index");
     }
 
+    /** "the sum of all sizes before it along the length" */
     private static void theFirstItem() {
         for (String way : WAYS) {
             for (String item : new String[] {"leaf 1 2 3 4", "rule 2 3 4", "glue 2 1 0 3 0", "kern 2", "box 0 5"}) {
@@ -43,6 +45,7 @@ public final class PlaceBoundaryTest {
         }
     }
 
+    /** "the sum of all sizes before it along the length" */
     private static void whatComesBefore() {
         run("Along, the width of each item", "leaf 1 2 3 4; pack along 0 0 0; leaf 1 1 9 9; rule 10 9 9; kern 100",
             "glue 1000 0 0 0 0; box 0 9; rule RUNNING 9 9; kern -1; kern 0; pack along 0 0 0",
@@ -52,6 +55,7 @@ public final class PlaceBoundaryTest {
             "pack below 2 -2 0; places 1 = 0 4 9 13");
     }
 
+    /** "for a leaf, box or rule packed below: also the depth before it, not its height" */
     private static void depthsBefore() {
         run("Below, also the depth before a leaf, rule or box", "leaf 1 2 3 4; pack along 0 0 0",
             "leaf 1 0 10 1; leaf 1 0 20 2; rule 0 30 3; box 0 9; rule 0 RUNNING RUNNING; leaf 1 0 0 0; pack below 0 0 0",
@@ -63,6 +67,7 @@ public final class PlaceBoundaryTest {
             "sizes 0 = 0 10 7; sizes 1 = 0 11 6; sizes 2 = 0 26 -9");
     }
 
+    /** "rounded to the nearest integer, halves away from 0" */
     private static void halves() {
         String two = "2 * glue 0 1 1 1 1; kern 0; ";
         run("Halves go away from 0", two + "pack along 2 1 0; places 0 = 0 1 1", two + "pack along 2 -1 0; places 1 = 0 -1 -1",
@@ -80,6 +85,7 @@ public final class PlaceBoundaryTest {
             "kern 5; " + two + "pack along 2 -1 0; places 1 = 0 5 4 4");
     }
 
+    /** "rounded to the nearest integer, halves away from 0" */
     private static void nearHalvesOfGreatTotals() {
         run("Just less than a half of the total MAX", "glue 0 536870911 0 536870911 0; glue 0 536870912 0 536870912 0; kern 0",
             "pack along 2 1 0; places 0 = 0 0 1; glue 0 536870911 0 536870911 0; glue 0 536870912 0 536870912 0; kern 0",
@@ -101,6 +107,7 @@ public final class PlaceBoundaryTest {
             "places 1 = 0 536870911 536870912");
     }
 
+    /** "0 if the total is 0" */
     private static void totals() {
         run("0 if the total is 0", "glue 5 0 0 0 0; kern 5; pack along 2 9 0; places 0 = 0 5; glue 5 0 0 0 0; kern 5",
             "pack along 2 -9 0; places 1 = 0 5; kern 5; kern 5; pack below 2 9 0; places 2 = 0 5");
@@ -110,6 +117,7 @@ public final class PlaceBoundaryTest {
             "pack along 1 10 0; places 1 = 0 5; glue 5 1 0 1 0; kern 5; pack along 0 99 0; places 2 = 0 5");
     }
 
+    /** "of the glue of the box's order before it" */
     private static void ordersBefore() {
         for (int order = 1; order < 4; order++) {
             String lower = "glue 10 9 " + (order - 1) + " 9 " + (order - 1) + "; ";
@@ -122,6 +130,7 @@ public final class PlaceBoundaryTest {
             "pack along 2 8 0; places 0 = 0 10 28");
     }
 
+    /** "the sum of stretch (shrink, if the excess is below 0)" */
     private static void stretchOrShrink() {
         String list = "glue 10 1 0 3 0; glue 10 3 0 1 0; kern 0; ";
         run("Stretch, or shrink if the excess is below 0", list + "pack along 2 4 0; places 0 = 0 11 24",
@@ -132,6 +141,7 @@ public final class PlaceBoundaryTest {
             orders + "pack along 2 -4 0; places 1 = 0 10 16");
     }
 
+    /** "the excess is taken as less the total for the places" */
     private static void overfull() {
         String list = "glue 10 9 0 3 0; glue 10 9 0 2 0; kern 0; ";
         run("The excess is taken as less the total", list + "pack along 2 -4 0; places 0 = 0 8 16",
@@ -142,6 +152,7 @@ public final class PlaceBoundaryTest {
             first + "pack along 2 -10 0; places 1 = 0 4 10");
     }
 
+    /** "SIZES are ints from -1073741823 to 1073741823." */
     private static void ends() {
         run("The greatest place", "glue 0 1 0 0 0; kern MAX; kern -MAX; pack along 2 MAX 0; places 0 = 0 MAX 2147483646",
             "glue 0 MAX 0 0 0; kern MAX; kern -MAX; pack below 2 MAX 0; places 1 = 0 MAX 2147483646");

@@ -125,10 +125,12 @@ public final class RefusalTest {
     }
 
     private static void firstNamedByLay() {
-        run("No such box, and no size", "lay 0 RUNNING 0 ! index; lay 0 0 MAX+1 ! index; pack along 0 0 0; lay 0 RUNNING 0 ! argument",
-            "lay 1 RUNNING 0 ! index; lay 1 0 MAX+1 ! index; lay -1 MAX+1 RUNNING ! index; lay 0 0 MAX+1 ! argument");
-        run("No size, and too much to be laid out", "leaf 1 2 3 4; pack along 0 0 0; lay 0 5 6 = 1; 99 * kern 0; pack along 0 0 0",
-            "100 * box 1 0; pack along 0 0 0; 3 * box 2 0; pack along 0 0 0; of 3 10 = 30003; lay 3 RUNNING 0 ! argument",
-            "marked 0 = 1 5 6 2 3 4; lay 3 0 MAX+1 ! argument; mark 0 0 = 1; lay 3 0 0 = NONE; mark 0 0 ! index");
+        run("No such box, and no size", "lay 0 RUNNING 0 ! index; lay 0 0 MAX+1 ! index; pack along 0 0 0",
+            "lay 0 RUNNING 0 ! argument; lay 1 RUNNING 0 ! index; lay 1 0 MAX+1 ! index; lay -1 MAX+1 RUNNING ! index",
+            "lay 0 0 MAX+1 ! argument");
+        run("No size, and too much to be laid out", "leaf 1 2 3 4; pack along 0 0 0; lay 0 5 6 = 1; 99 * kern 0",
+            "pack along 0 0 0; 100 * box 1 0; pack along 0 0 0; 3 * box 2 0; pack along 0 0 0; of 3 10 = 30003",
+            "lay 3 RUNNING 0 ! argument; marked 0 = 1 5 6 2 3 4; lay 3 0 MAX+1 ! argument; mark 0 0 = 1",
+            "lay 3 0 0 = NONE; mark 0 0 ! index");
     }
 }

@@ -43,6 +43,7 @@ public final class SumBoundaryTest {
             "of 2 0 = 5; of 2 9 = 1");
     }
 
+    /** "added up one size behind the other, the length" */
     private static void lengthAlong() {
         String[] more = {"kern 1", "glue 1 0 0 0 0", "leaf 0 1 0 0", "rule 1 0 0", "box 0 0"};
         String[] less = {"kern -1", "glue -1 0 0 0 0", "leaf 0 -1 0 0", "rule -1 0 0", "box 1 0"};
@@ -51,6 +52,8 @@ public final class SumBoundaryTest {
             refused("Along, too great: " + more[i], WIDE + "kern MAX; " + more[i], 2, "along 0 0 0");
             packed("Along, just a size: " + less[i], WIDE + "kern -MAX+1; " + less[i], "along 0 0 0", "-MAX", "0");
             refused("Along, too small: " + less[i], WIDE + "kern -MAX; " + less[i], 2, "along 0 0 0");
+            refused("Along, too great in between: " + more[i], WIDE + "kern MAX; " + more[i] + "; kern -1", 3, "along 0 0 0");
+            refused("Along, too small in between: " + less[i], WIDE + "kern -MAX; " + less[i] + "; kern 1", 3, "along 0 0 0");
         }
         refused("Along, far too great", WIDE + "99 * kern MAX", 99, "along 0 0 0");
         refused("Along, far too small", WIDE + "99 * kern -MAX", 99, "along 0 0 0");
@@ -58,16 +61,15 @@ public final class SumBoundaryTest {
         packed("Along, a running width is 0", WIDE + "kern -MAX; rule RUNNING 0 0", "along 0 0 0", "-MAX", "0");
     }
 
+    /** "added up one size behind the other, the length" */
     private static void lengthAlongInBetween() {
-        refused("Along, too great in between", WIDE + "kern MAX; kern 1; kern -1", 3, "along 0 0 0");
-        refused("Along, too small in between", WIDE + "kern -MAX; kern -1; kern 1", 3, "along 0 0 0");
         packed("Along, the same in another order", WIDE + "kern MAX; kern -1; kern 1", "along 0 0 0", "MAX", "0");
         packed("Along, from end to end", WIDE + "kern MAX; kern -MAX; kern -MAX; kern MAX; kern MAX",
             "along 0 0 0", "MAX", "0");
         refused("Along, too great in between, to a size", WIDE + "kern MAX; kern 1; kern -1", 3, "along 1 0 0");
-        refused("Along, too great, by a size that is below 0", WIDE + "kern MAX; kern 1", 2, "along 2 -1 0");
     }
 
+    /** "added up one size behind the other, the length" */
     private static void lengthBelow() {
         String[] more = {"kern 1", "glue 1 0 0 0 0", "leaf 0 0 1 0", "rule 0 1 0", "box 0 0"};
         String[] less = {"kern -1", "glue -1 0 0 0 0", "leaf 0 0 -1 0", "rule 0 -1 0", "box 1 0"};
@@ -76,12 +78,14 @@ public final class SumBoundaryTest {
             refused("Below, too great: " + more[i], HIGH + "kern MAX; " + more[i], 2, "below 0 0 0");
             packed("Below, just a size: " + less[i], HIGH + "kern -MAX+1; " + less[i], "below 0 0 0", "0", "-MAX");
             refused("Below, too small: " + less[i], HIGH + "kern -MAX; " + less[i], 2, "below 0 0 0");
+            refused("Below, too great in between: " + more[i], HIGH + "kern MAX; " + more[i] + "; kern -1", 3, "below 0 0 0");
+            refused("Below, too small in between: " + less[i], HIGH + "kern -MAX; " + less[i] + "; kern 1", 3, "below 0 0 0");
         }
         packed("Below, a running height is 0", HIGH + "kern -MAX; rule 0 RUNNING 0", "below 0 0 0", "0", "-MAX");
-        refused("Below, too great in between", HIGH + "kern MAX; kern 1; kern -1", 3, "below 0 0 0");
         refused("Below, so great that an int wraps around", HIGH + "4 * leaf 0 0 MAX 0; kern 4", 5, "below 0 0 0");
     }
 
+    /** "for a leaf, box or rule the depth there is and its height are added to the length" */
     private static void depthsBelow() {
         String[] more = {"leaf 0 0 0 1", "rule 0 0 1", "box 0 0"};
         String[] less = {"leaf 0 0 0 -1", "rule 0 0 -1", "box 1 0"};
@@ -102,6 +106,7 @@ public final class SumBoundaryTest {
         packed("No depth is added along", DEEP + "kern MAX; leaf 0 0 0 1; kern 0", "along 0 0 0", "MAX", "0");
     }
 
+    /** "a depth and a height behind it are two" */
     private static void depthAndWhatComesBehindAreTwo() {
         String[] behind = {"leaf 0 0 -1 0", "rule 0 -1 0", "kern -1", "glue -1 0 0 0 0", "box 1 0"};
         for (String last : behind) {
@@ -119,10 +124,12 @@ public final class SumBoundaryTest {
             3, "below 0 0 0");
     }
 
+    /** "what is above it is added to the length" */
     private static void lengthBehindTheGreatestDepth() {
         packed("What is above the greatest depth, just a size", DEEP + "kern MAX-1; leaf 0 0 0 1", "below 0 0 0", "0", "MAX");
         refused("What is above the greatest depth, too great", DEEP + "kern MAX; leaf 0 0 0 1", 2, "below 0 0 0");
         refused("What is above the greatest depth, too great by more", DEEP + "kern MAX-1; leaf 0 0 0 2", 2, "below 0 0 0");
+        packed("What is above the greatest depth is added at once", DEEP + "kern MAX-1; leaf 0 0 0 2", "below 0 0 1", "0", "MAX");
         packed("A greatest depth of -1, just a size", DEEP + "kern MAX-1", "below 0 0 -1", "0", "MAX");
         refused("A greatest depth of -1, too great", DEEP + "kern MAX", 1, "below 0 0 -1");
         packed("The least greatest depth, just a size", DEEP + "kern 0", "below 0 0 -MAX", "0", "MAX");
@@ -130,10 +137,12 @@ public final class SumBoundaryTest {
         refused("The greatest depth above the least one, too great", DEEP + "leaf 0 0 0 MAX", 1, "below 0 0 -MAX");
         packed("What is above it is more than a size, but the length is one", DEEP + "leaf 0 0 -MAX MAX", "below 0 0 -MAX",
             "0", "MAX");
+        refused("Too small before what is above the greatest depth is added", DEEP + "kern -MAX; kern -1", 2, "below 0 0 -1");
         refused("Too great before the excess", DEEP + "kern MAX; leaf 0 0 0 1", 2, "below 1 0 0");
         refused("Too great, by a size that is below 0", DEEP + "kern MAX; leaf 0 0 0 1", 2, "below 2 -1 0");
     }
 
+    /** "the stretch or shrink of an order" */
     private static void stretchAndShrink() {
         for (String way : WAYS) {
             for (int order = 0; order < 4; order++) {
@@ -157,6 +166,7 @@ public final class SumBoundaryTest {
         refused("Shrink of a box that stretches", WIDE + "2 * glue 0 1 0 MAX 0", 2, "along 2 1 0");
     }
 
+    /** "the stretch or shrink of an order" */
     private static void ordersAreAddedUpApart() {
         String each = "glue 0 MAX 0 MAX 3; glue 0 MAX 1 MAX 2; glue 0 MAX 2 MAX 1; glue 0 MAX 3 MAX 0; ";
         run("The greatest sum in each order", each + "pack along 2 MAX 0; fit 0 = MAX 3 MAX 0 0",
@@ -164,6 +174,7 @@ public final class SumBoundaryTest {
             "keep 4 = true; glue 0 0 0 1 0; pack along 2 MAX 0 ! state; keep 4 = true; pack along 0 0 0 = 2");
     }
 
+    /** "a size of a box in the list with its shift is no size" */
     private static void heightsLessShifts() {
         packed("A height of 1 less -MAX+1", HIGH + "box 0 -MAX+1", "along 0 0 0", "0", "MAX");
         refused("A height of 1 less -MAX", HIGH + "box 0 -MAX", 1, "along 0 0 0");
@@ -174,6 +185,7 @@ public final class SumBoundaryTest {
         refused("Another box is too high", HIGH + "leaf 0 0 5 0; box 0 -MAX; box 0 0", 3, "along 0 0 0");
     }
 
+    /** "a size of a box in the list with its shift is no size" */
     private static void depthsWithShifts() {
         run("A depth of 1 and MAX-1", DEEP + "box 0 MAX-1; pack along 0 0 0 = 2; sizes 2 = 0 0 MAX");
         refused("A depth of 1 and MAX", DEEP + "box 0 MAX", 1, "along 0 0 0");
@@ -182,6 +194,7 @@ public final class SumBoundaryTest {
         refused("Another box is too deep", DEEP + "leaf 0 0 0 5; box 0 MAX; box 0 0", 3, "along 0 0 0");
     }
 
+    /** "a size of a box in the list with its shift is no size" */
     private static void widthsWithShifts() {
         packed("A width of 1 and MAX-1", WIDE + "box 0 MAX-1", "below 0 0 0", "MAX", "0");
         refused("A width of 1 and MAX", WIDE + "box 0 MAX", 1, "below 0 0 0");
@@ -190,6 +203,7 @@ public final class SumBoundaryTest {
         refused("Another box is too wide", WIDE + "leaf 0 5 0 0; box 0 MAX; box 0 0", 3, "below 0 0 0");
     }
 
+    /** "a size of a box in the list with its shift is no size" */
     private static void onlyTheSumsOfTheWayCount() {
         packed("Along, a width and its shift are not added", WIDE + "box 0 MAX", "along 0 0 0", "1", "0");
         packed("Below, a height is not made less by its shift", HIGH + "box 0 -MAX", "below 0 0 0", "0", "1");
@@ -197,6 +211,7 @@ public final class SumBoundaryTest {
             DEEP + "box 0 MAX; pack below 0 0 MAX = 2; sizes 2 = MAX 0 1");
     }
 
+    /** "or the excess is none" */
     private static void excessToASize() {
         for (String way : WAYS) {
             run("The greatest excess, " + way, "kern -1; pack " + way + " 1 MAX-1 0 = 0; of 0 3 = MAX; items = 0");
@@ -213,6 +228,7 @@ public final class SumBoundaryTest {
             "leaf 0 0 0 1; pack below 1 -MAX 1 = 0; sizes 0 = 0 -MAX 1; of 0 3 = -MAX");
     }
 
+    /** "or a size of the box" */
     private static void lengthByASize() {
         packed("By MAX-1, along", WIDE + "kern 1", "along 2 MAX-1 0", "MAX", "0");
         refused("By MAX, along", WIDE + "kern 1", 1, "along 2 MAX 0");
@@ -223,6 +239,10 @@ public final class SumBoundaryTest {
         packed("By -MAX+1, below", WIDE + "kern -1", "below 2 -MAX+1 0", "0", "-MAX");
         refused("By -MAX, below", WIDE + "kern -1", 1, "below 2 -MAX 0");
         packed("By 1, along", WIDE + "kern MAX-1", "along 2 1 0", "MAX", "0");
+        for (String way : WAYS) {
+            refused("Too great before the excess, " + way, WIDE + "kern MAX; kern 1", 2, way + " 2 -1 0");
+            refused("Too small before the excess, " + way, WIDE + "kern -MAX; kern -1", 2, way + " 2 1 0");
+        }
         refused("By 1, too great", WIDE + "kern MAX", 1, "along 2 1 0");
         refused("By -1, too small", WIDE + "kern -MAX", 1, "below 2 -1 0");
         packed("Natural, whatever the size", WIDE + "kern MAX", "along 0 MAX 0", "MAX", "0");
