@@ -38,7 +38,6 @@ public final class BoxPacker {
         if (!isSize(width) || !isSize(height) || !isSize(depth)) {
             throw new IllegalArgumentException("the width, height or depth is no size");
         }
-        refuseWhenFull();
         return append(new Solid(tag, width, height, depth, null, 0));
     }
 
@@ -47,7 +46,6 @@ public final class BoxPacker {
         if (!isSizeOrRunning(width) || !isSizeOrRunning(height) || !isSizeOrRunning(depth)) {
             throw new IllegalArgumentException("the width, height or depth is neither a size nor RUNNING");
         }
-        refuseWhenFull();
         return append(new Solid(NONE, width, height, depth, null, 0));
     }
 
@@ -62,7 +60,6 @@ public final class BoxPacker {
         if (!isOrder(order) || !isOrder(shrinkOrder)) {
             throw new IllegalArgumentException("an order is not 0 .. 3");
         }
-        refuseWhenFull();
         return append(new Space(width, stretch, order, shrink, shrinkOrder));
     }
 
@@ -70,7 +67,6 @@ public final class BoxPacker {
         if (!isSize(width)) {
             throw new IllegalArgumentException("the width is no size");
         }
-        refuseWhenFull();
         return append(new Space(width, 0, 0, 0, 0));
     }
 
@@ -80,7 +76,6 @@ public final class BoxPacker {
         if (!isSize(shift)) {
             throw new IllegalArgumentException("the shift is no size");
         }
-        refuseWhenFull();
         return append(new Solid(NONE, inner.width, inner.height, inner.depth, inner, shift));
     }
 
@@ -172,13 +167,10 @@ public final class BoxPacker {
         return marks.row[i * Marks.NUMBERS + what];
     }
 
-    private void refuseWhenFull() {
+    private int append(Item item) {
         if (listed >= MOST_ITEMS) {
             throw new UnsupportedOperationException("there are 100 items");
         }
-    }
-
-    private int append(Item item) {
         int number = listed;
         list[number] = item;
         listed++;
@@ -248,11 +240,14 @@ public final class BoxPacker {
         return (int) sum;
     }
 
-    // The divisor is above 0; twice the product of two sizes still is a long.
-    private static int dividedToNearest(long dividend, int divisor) {
-        long magnitude = dividend < 0 ? -dividend : dividend;
-        long rounded = (2 * magnitude + divisor) / (2L * divisor);
-        return (int) (dividend < 0 ? -rounded : rounded);
+    // Twice the product of two sizes still is a long.
+    private static int share(long part, long excess, int total) {
+        if (total == 0) {
+            return 0;
+        }
+        long product = part * excess;
+        long rounded = (2 * Math.abs(product) + total) / (2L * total);
+        return (int) (product < 0 ? -rounded : rounded);
     }
 
     private abstract static class Item {
@@ -427,14 +422,11 @@ public final class BoxPacker {
 
         // An overfull box gives all the shrink it has and no more.
         private void addShares() {
-            if (total == 0) {
-                return;
-            }
             boolean shrinking = excess < 0;
-            long given = overfull > 0 ? -total : excess;
-            long before = 0;
+            int given = overfull > 0 ? -total : excess;
+            int before = 0;
             for (int i = 0; i < content.length; i++) {
-                places[i] += dividedToNearest(before * given, total);
+                places[i] += share(before, given, total);
                 if (content[i] instanceof Space space && space.giveOrder(shrinking) == order) {
                     before += space.give(shrinking);
                 }

@@ -1,23 +1,46 @@
 import java.lang.reflect.Constructor;
+import java.lang.reflect.Executable;
 import java.lang.reflect.Field;
 import java.lang.reflect.Method;
 import java.lang.reflect.Modifier;
+import java.lang.reflect.Parameter;
 import java.util.HashSet;
 import java.util.Set;
+import java.util.StringJoiner;
 import java.util.TreeSet;
 
-/** The public face of the document, and no member beyond it that others could reach. */
+/**
+ * The document's section "The public face", and no member beyond it that others could reach. The
+ * names of the parameters are seen only when javac is called with -parameters.
+ */
 public final class FaceTest {
     private static final Check CHECK = new Check();
-    private static final String INDEX = "IndexOutOfBoundsException";
-    private static final String ARGUMENT = "IllegalArgumentException";
-    private static final String TOO_MUCH = "UnsupportedOperationException";
-    private static final String STATE = "IllegalStateException";
+    /** As it stands in the document. */
+    private static final String FACE = """
+        public static final int RUNNING = -1073741824;
+        public static final int NONE = -1;
+        public BoxPacker();
+        public int leaf(int tag, int width, int height, int depth) throws IllegalArgumentException, UnsupportedOperationException;
+        public int rule(int width, int height, int depth) throws IllegalArgumentException, UnsupportedOperationException;
+        public int glue(int width, int stretch, int order, int shrink, int shrinkOrder) throws IllegalArgumentException, UnsupportedOperationException;
+        public int kern(int width) throws IllegalArgumentException, UnsupportedOperationException;
+        public int box(int box, int shift) throws IndexOutOfBoundsException, IllegalArgumentException, UnsupportedOperationException;
+        public boolean keep(int n);
+        public int items();
+        public int pack(boolean below, int how, int size, int greatest) throws IllegalArgumentException, UnsupportedOperationException, IllegalStateException;
+        public int boxes();
+        public int of(int box, int what) throws IndexOutOfBoundsException;
+        public int place(int box, int i) throws IndexOutOfBoundsException;
+        public int lay(int box, int x, int y) throws IndexOutOfBoundsException, IllegalArgumentException;
+        public long mark(int i, int what) throws IndexOutOfBoundsException;
+        """;
 
-    public static void main(String[] args) {
-        int modifiers = BoxPacker.class.getModifiers();
-        CHECK.isTrue("public final class", Modifier.isPublic(modifiers) && Modifier.isFinal(modifiers));
-        Set<String> due = dueMembers();
+    public static void main(String[] args) throws IllegalAccessException {
+        CHECK.isTrue("public final class BoxPacker",
+            Modifier.toString(BoxPacker.class.getModifiers()).equals("public final")
+                && BoxPacker.class.getName().equals("BoxPacker") && BoxPacker.class.getSuperclass() == Object.class
+                && BoxPacker.class.getInterfaces().length == 0);
+        Set<String> due = new TreeSet<>(FACE.lines().toList());
         Set<String> found = reachableMembers();
         for (String member : due) {
             CHECK.isTrue("there is " + member, found.contains(member));
@@ -30,51 +53,39 @@ public final class FaceTest {
         CHECK.finish();
     }
 
-    private static Set<String> dueMembers() {
-        Set<String> due = new TreeSet<>();
-        due.add("public static final int RUNNING");
-        due.add("public static final int NONE");
-        due.add("public BoxPacker()");
-        due.add(method("int leaf(int,int,int,int)", ARGUMENT, TOO_MUCH));
-        due.add(method("int rule(int,int,int)", ARGUMENT, TOO_MUCH));
-        due.add(method("int glue(int,int,int,int,int)", ARGUMENT, TOO_MUCH));
-        due.add(method("int kern(int)", ARGUMENT, TOO_MUCH));
-        due.add(method("int box(int,int)", INDEX, ARGUMENT, TOO_MUCH));
-        due.add(method("boolean keep(int)"));
-        due.add(method("int items()"));
-        due.add(method("int pack(boolean,int,int,int)", ARGUMENT, TOO_MUCH, STATE));
-        due.add(method("int boxes()"));
-        due.add(method("int of(int,int)", INDEX));
-        due.add(method("int place(int,int)", INDEX));
-        due.add(method("int lay(int,int,int)", INDEX, ARGUMENT));
-        due.add(method("long mark(int,int)", INDEX));
-        return due;
-    }
-
-    private static String method(String signature, String... exceptions) {
-        StringBuilder text = new StringBuilder("public ").append(signature);
-        for (int i = 0; i < exceptions.length; i++) {
-            text.append(i == 0 ? " throws " : ",").append(exceptions[i]);
-        }
-        return text.toString();
-    }
-
-    private static Set<String> reachableMembers() {
+    private static Set<String> reachableMembers() throws IllegalAccessException {
         Set<String> found = new TreeSet<>();
         for (Field field : BoxPacker.class.getDeclaredFields()) {
             if (!Modifier.isPrivate(field.getModifiers())) {
-                found.add(field.toString().replace("BoxPacker.", ""));
+                found.add(constant(field));
             }
         }
         for (Constructor<?> constructor : BoxPacker.class.getDeclaredConstructors()) {
-            found.add(constructor.toString());
+            found.add(declared(constructor, "BoxPacker"));
         }
         for (Method method : BoxPacker.class.getDeclaredMethods()) {
             if (!Modifier.isPrivate(method.getModifiers())) {
-                found.add(method.toString().replace("BoxPacker.", "").replace("java.lang.", ""));
+                found.add(declared(method, method.getReturnType() + " " + method.getName()));
             }
         }
         return found;
+    }
+
+    private static String constant(Field field) throws IllegalAccessException {
+        String text = Modifier.toString(field.getModifiers()) + " " + field.getType() + " " + field.getName();
+        return text + (Modifier.isStatic(field.getModifiers()) ? " = " + field.get(null) : "") + ";";
+    }
+
+    private static String declared(Executable call, String name) {
+        StringJoiner parameters = new StringJoiner(", ", "(", ")");
+        for (Parameter parameter : call.getParameters()) {
+            parameters.add(parameter.getType() + " " + parameter.getName());
+        }
+        StringJoiner exceptions = new StringJoiner(", ", " throws ", "").setEmptyValue("");
+        for (Class<?> exception : call.getExceptionTypes()) {
+            exceptions.add(exception.getSimpleName());
+        }
+        return Modifier.toString(call.getModifiers()) + " " + name + parameters + exceptions + ";";
     }
 
     private static void innerClasses() {

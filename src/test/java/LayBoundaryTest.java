@@ -86,6 +86,9 @@ public final class LayBoundaryTest {
         run("Below, a running height and depth are 0", "leaf 8 1 5 5; rule 1 RUNNING RUNNING; pack below 0 0 0; lay 0 0 0 = 1",
             "leaf 8 1 5 5; rule 1 RUNNING 1; pack below 0 0 1; lay 1 0 0 = 2; marked 1 = NONE 0 0 1 0 1",
             "leaf 8 1 5 5; rule 1 1 RUNNING; pack below 0 0 0; lay 2 0 0 = 2; marked 1 = NONE 0 0 1 1 0");
+        run("Below, a running height and depth are 0, whatever the box's", "rule 1 4 RUNNING; rule 2 RUNNING 5; leaf 8 1 2 3",
+            "pack below 0 0 3; sizes 0 = 2 11 3; lay 0 0 11 = 3; marked 0 = NONE 0 4 1 4 0; marked 1 = NONE 0 4 2 0 5",
+            "rule 1 RUNNING RUNNING; leaf 8 1 2 3; pack below 0 0 3; sizes 1 = 1 2 3; lay 1 0 0 = 1; mark 0 0 = 8");
         run("Along, a running height and depth are the box's", "rule 1 RUNNING RUNNING; pack along 0 0 0; lay 0 0 0 = 0",
             "rule 1 RUNNING RUNNING; rule 0 1 0; pack along 0 0 0; lay 1 0 0 = 1; mark 0 4 = 1; mark 0 5 = 0",
             "rule 1 RUNNING RUNNING; rule 0 0 1; pack along 0 0 0; lay 2 0 0 = 1; mark 0 4 = 0; mark 0 5 = 1",

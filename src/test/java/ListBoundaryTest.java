@@ -60,7 +60,11 @@ public final class ListBoundaryTest {
             "pack along 0 0 0 = 0; boxes = 1; items = 0; mark 0 0 ! index; lay 0 0 0 = 0; mark 0 0 ! index");
     }
 
-    /** "SIZES are ints from -1073741823 to 1073741823." */
+    /**
+     * "SIZES are ints from -1073741823 to 1073741823."; of a leaf "or one of the others is no size", of glue
+     * "IllegalArgumentException when width is no size", of a kern "IllegalArgumentException when it is no
+     * size", of a box "IllegalArgumentException when shift is no size"
+     */
     private static void sizesOfItems() {
         String[] refused = and(NO_SIZES, "RUNNING");
         argument("leaf 0 ? 0 0", SIZES, refused);
@@ -137,7 +141,7 @@ public final class ListBoundaryTest {
             "box -1 0 ! index; items = 1");
     }
 
-    /** "UnsupportedOperationException when there are 100 items." */
+    /** "UnsupportedOperationException when there are 100 items.", "UnsupportedOperationException as for leaf." */
     private static void aHundredItems() {
         for (String item : ONE_OF_EACH) {
             run("There are 100 items: " + item,
@@ -146,6 +150,9 @@ public final class ListBoundaryTest {
                 "keep 99 = true; items = 99; " + item + " = 99; " + item + " ! too much",
                 "pack along 0 0 0 = 1; of 1 9 = 100; of 1 0 = 98; items = 0; " + item + " = 0");
         }
+        run("There are 100 items, and the first and the last of them are told",
+            "leaf 1 1 1 1; 98 * kern 1; leaf 2 1 1 1 = 99; leaf 3 1 1 1 ! too much; pack along 0 0 0; lay 0 0 0 = 2",
+            "marked 0 = 1 0 0 1 1 1; marked 1 = 2 99 0 1 1 1");
         run("There are 100 items, of all kinds",
             "pack along 0 0 0; 20 * leaf 1 1 1 1; 20 * rule 1 1 1; 20 * glue 1 1 0 1 0; 20 * kern 1",
             "20 * box 0 0; items = 100; leaf 0 5 5 5 ! too much; rule 5 5 5 ! too much",

@@ -1,7 +1,10 @@
 import java.util.ArrayList;
 import java.util.List;
 
-/** A call that throws changes nothing; where several exceptions fit, it is the one that is named first. */
+/**
+ * "A call that throws changes nothing; where several exceptions that a call names fit, it is the one that it
+ * names first."
+ */
 public final class RefusalTest {
     private static final Check CHECK = new Check();
     private static final String RUN = "leaf 65 10 7 2 = 0; glue 5 3 0 2 0 = 1; items = 2; rule 3 RUNNING 1 = 2; kern -1 = 3;"
