@@ -40,7 +40,7 @@ public final class LayTest {
             "marked 2 = 66 1000 2000 -6 -7 -8");
         run("Below, boxes", "leaf 65 10 7 2; pack along 0 0 0; box 0 3; box 0 -4; leaf 66 1 1 1; pack below 0 0 1; of 1 1 = 19",
             "lay 1 1000 2000 = 3; marked 0 = 65 1003 1988 10 7 2; marked 1 = 65 996 1997 10 7 2; marked 2 = 66 1000 2000 1 1 1");
-        run("Below, to a greatest depth", "leaf 65 10 7 2; pack below 0 0 0; of 0 1 = 9; lay 0 0 0 = 1; marked 0 = 65 0 -2 10 7 2");
+        run("Below, a greatest depth", "leaf 65 10 7 2; pack below 0 0 0; of 0 1 = 9; lay 0 0 0 = 1; marked 0 = 65 0 -2 10 7 2");
     }
 
     /** "A box is laid out so within." */
@@ -54,7 +54,7 @@ public final class LayTest {
 
     /** "A box is laid out so within." */
     private static void stretchedWithin() {
-        run("Glue stretches in the inner box and in the outer one", "leaf 1 1 1 1; glue 10 1 0 0 0; leaf 2 1 1 1; pack along 2 4 0",
+        run("Glue stretches in both boxes", "leaf 1 1 1 1; glue 10 1 0 0 0; leaf 2 1 1 1; pack along 2 4 0",
             "glue 100 1 0 0 0; box 0 0; glue 100 3 0 0 0; box 0 0; pack along 2 80 0; places 1 = 0 120 136 296",
             "lay 1 1000 0 = 4; mark 0 1 = 1120; mark 1 1 = 1135; mark 2 1 = 1296; mark 3 1 = 1311");
         run("Along within below, and below within along", "leaf 1 1 5 2; glue 10 1 0 0 0; leaf 2 1 5 2; pack below 2 4 2",
@@ -81,9 +81,9 @@ public final class LayTest {
     private static void runningRulesWithin() {
         run("A rule within a box runs as far as that box", "leaf 1 10 7 2; rule RUNNING 1 1; pack below 0 0 1; of 0 1 = 10",
             "leaf 2 1 3 4; rule 1 RUNNING RUNNING; pack along 0 0 0; box 0 0; box 1 0; rule 2 RUNNING RUNNING; leaf 3 9 50 60",
-            "pack along 0 0 0; lay 2 0 0 = 6; marked 1 = NONE 0 0 10 1 1; marked 3 = NONE 11 0 1 3 4; marked 4 = NONE 12 0 2 50 60",
-            "box 0 5; box 1 0; rule RUNNING 1 0; leaf 3 99 1 0; pack below 0 0 0; lay 3 0 0 = 6; mark 1 3 = 10; mark 3 4 = 3",
-            "mark 3 5 = 4; mark 4 3 = 99");
+            "pack along 0 0 0; lay 2 0 0 = 6; marked 1 = NONE 0 0 10 1 1; marked 3 = NONE 11 0 1 3 4",
+            "marked 4 = NONE 12 0 2 50 60; box 0 5; box 1 0; rule RUNNING 1 0; leaf 3 99 1 0; pack below 0 0 0; lay 3 0 0 = 6",
+            "mark 1 3 = 10; mark 3 4 = 3; mark 3 5 = 4; mark 4 3 = 99");
     }
 
     /**
@@ -91,10 +91,10 @@ public final class LayTest {
      * told as MARKS, in the order in which they come."
      */
     private static void order() {
-        run("In the order in which they come", "leaf 1 -10 0 0; rule 1 1 1; leaf 2 -10 0 0; pack along 0 0 0; leaf 3 0 0 0; box 0 0",
-            "kern 5; rule 0 1 1; leaf 4 0 0 0; glue 5 0 0 0 0; rule 1 1 -1; box 0 0; rule 2 2 2; leaf 3 0 0 0; pack below 0 0 0",
-            "lay 1 0 0 = 10; mark 0 0 = 3; mark 1 0 = 1; mark 2 0 = NONE; mark 3 0 = 2; mark 4 0 = 4; mark 5 0 = 1",
-            "mark 6 0 = NONE; mark 7 0 = 2; mark 8 0 = NONE; mark 9 0 = 3; mark 2 3 = 1; mark 8 3 = 2");
+        run("In the order in which they come", "leaf 1 -10 0 0; rule 1 1 1; leaf 2 -10 0 0; pack along 0 0 0; leaf 3 0 0 0",
+            "box 0 0; kern 5; rule 0 1 1; leaf 4 0 0 0; glue 5 0 0 0 0; rule 1 1 -1; box 0 0; rule 2 2 2; leaf 3 0 0 0",
+            "pack below 0 0 0; lay 1 0 0 = 10; mark 0 0 = 3; mark 1 0 = 1; mark 2 0 = NONE; mark 3 0 = 2; mark 4 0 = 4",
+            "mark 5 0 = 1; mark 6 0 = NONE; mark 7 0 = 2; mark 8 0 = NONE; mark 9 0 = 3; mark 2 3 = 1; mark 8 3 = 2");
     }
 
     /** "Of mark i: 0 its tag, NONE for a rule; 1 its x, 2 its y; 3 its width, 4 height, 5 depth." */

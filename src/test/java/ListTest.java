@@ -41,9 +41,9 @@ public final class ListTest {
 
     /** "A LIST has up to 100 ITEMS, from 0 on" and "How many items the list has." */
     private static void items() {
-        run("Items of all kinds, from 0 on", "pack along 0 0 0; items = 0; leaf 1 1 1 1 = 0; items = 1; rule 1 1 1 = 1; items = 2",
-            "glue 1 1 1 1 1 = 2; items = 3; kern 1 = 3; items = 4; box 0 1 = 4; items = 5; items = 5; pack along 0 0 0; items = 0",
-            "kern 1 = 0; items = 1");
+        run("Items of all kinds, from 0 on", "pack along 0 0 0; items = 0; leaf 1 1 1 1 = 0; items = 1; rule 1 1 1 = 1",
+            "items = 2; glue 1 1 1 1 1 = 2; items = 3; kern 1 = 3; items = 4; box 0 1 = 4; items = 5; items = 5",
+            "pack along 0 0 0; items = 0; kern 1 = 0; items = 1");
     }
 
     /** "A leaf comes behind the list: its item." and "a LEAF (a tag 0 .. 65535, its width, height and depth)" */

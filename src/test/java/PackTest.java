@@ -121,7 +121,8 @@ public final class PackTest {
             glue + "100 0; of 3 6 = 100", glue + "200 0; of 4 6 = 800", glue + "900 0; of 5 6 = 10000",
             "kern 1; pack along 2 9 0; of 6 6 = 10000");
         run("Badness of great sums", "glue 0 1000000000 0 0 0; pack along 2 1000000000 0; of 0 6 = 100",
-            "glue 0 20000000 0 0 0; pack below 2 10000000 0; of 1 6 = 12; glue 0 9 0 0 0; pack along 2 10000000 0; of 2 6 = 10000");
+            "glue 0 20000000 0 0 0; pack below 2 10000000 0; of 1 6 = 12; glue 0 9 0 0 0",
+            "pack along 2 10000000 0; of 2 6 = 10000");
     }
 
     /**
@@ -140,8 +141,8 @@ public final class PackTest {
      * in all."
      */
     private static void whatIsTold() {
-        run("All that is told of a box", "6 * kern 0; pack along 0 0 0; leaf 1 50 22 33; glue 5 8 0 11 0; glue 0 0 1 0 1; box 0 0",
-            "pack along 2 -15 0; of 1 0 = 40; of 1 1 = 22; of 1 2 = 33; of 1 3 = -15; of 1 4 = 0; of 1 5 = 11",
+        run("All that is told of a box", "6 * kern 0; pack along 0 0 0; leaf 1 50 22 33; glue 5 8 0 11 0; glue 0 0 1 0 1",
+            "box 0 0; pack along 2 -15 0; of 1 0 = 40; of 1 1 = 22; of 1 2 = 33; of 1 3 = -15; of 1 4 = 0; of 1 5 = 11",
             "of 1 6 = 1000000; of 1 7 = 4; of 1 8 = 2; of 1 9 = 4; of 1 10 = 10");
         run("All that is told of another box", "6 * kern 0; pack along 0 0 0; leaf 1 50 22 33; glue 5 8 3 11 0; box 0 0; box 0 0",
             "kern 0; pack below 2 9 0; of 1 0 = 50; of 1 1 = 69; of 1 2 = 0; of 1 3 = 9; of 1 4 = 3; of 1 5 = 8; of 1 6 = 0",
